@@ -72,16 +72,21 @@ final class Bench {
         return said.toString();
     }
 
-    /** All that the face tells, to compare two machines by. */
-    String all() {
-        StringBuilder all = new StringBuilder(stack()).append('|').append(out()).append('|');
+    /** What the face tells but for the memory, to compare two machines by. */
+    String most() {
+        StringBuilder most = new StringBuilder(stack()).append('|').append(out()).append('|');
         for (int what = 0; what < 8; what++) {
-            all.append(machine.told(what)).append(' ');
+            most.append(machine.told(what)).append(' ');
         }
+        return most.append(machine.code()).toString();
+    }
+
+    String all() {
+        StringBuilder all = new StringBuilder(most());
         for (int cell = 0; cell < 1000; cell++) {
-            all.append(peeked(cell)).append(',');
+            all.append(',').append(peeked(cell));
         }
-        return all.append(machine.code()).toString();
+        return all.toString();
     }
 
     String peeked(int cell) {
