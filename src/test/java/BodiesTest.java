@@ -71,6 +71,10 @@ public final class BodiesTest {
         Check.after(": f do 1 loop ; 0 f", "error -4");
         Check.after(": f do loop ; f", "error -4");
         Check.after(": f ?do loop ; 1 f", "error -4");
+        Check.after(": f ?do loop ; 0 f", "error -4");
+        Check.after(": f ?do leave loop 7 ; 3 3 f 4 3 f", "7 7");
+        Check.after(": f 5 >r 3 0 do 1 +loop 3 0 do loop 3 0 do leave loop r> ; f", "5");
+        Check.after(": f 5 >r 3 0 do unloop r> exit loop ; f", "5");
         Check.after(": f do i leave loop ; 3 3 f", "3");
         // the index runs over from the greatest to the least int
         Check.after(": f do i loop ; -2147483647 2147483647 f", "2147483647 -2147483648");
@@ -110,6 +114,7 @@ public final class BodiesTest {
         Check.after(": f 5 >r r@ r@ r> ; f", "5 5 5");
         Check.after(": f 1 >r 2 >r r> r> ; f", "2 1");
         Check.after(": f 5 >r 3 0 do i loop r> ; f", "0 1 2 5");
+        Check.after(": f 6 >r r> ; : g 5 >r f r> ; g", "6 5");
         Check.after(": f 3 0 do i 1 = if unloop exit then i loop ; f 7", "0 7");
         // i and j are what the return stack has, with two or four cells of its own
         Check.after(": f 1 >r 2 >r i r> r> ; f", "2 2 1");
@@ -140,6 +145,11 @@ public final class BodiesTest {
         Check.after(": f 3 0 do r> drop 1 +loop ; f", "error -6");
         Check.after(": f 3 0 do r> leave loop ; f", "error -6");
         Check.after(": f i ; : g 3 0 do f loop ; g", "error -6");
+        // what throws does not go on
+        Check.after(": f 3 0 do unloop loop 5 throw ; f", "error -6");
+        Check.after(": f 3 0 do unloop 1 +loop 5 throw ; f", "error -6");
+        Check.after(": f 3 0 do unloop leave loop 5 throw ; f", "error -6");
+        Check.after(": f r> 5 throw ; : g 1 >r f ; g", "error -6");
         // a loop takes what is topmost: 64 0 2 1 becomes 64 0, and they are left over
         Check.after(": f 64 0 do 1 >r loop ; f", "error -6");
         Check.after(": f begin 1 >r again ; f", "error -3");

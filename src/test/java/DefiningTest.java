@@ -80,6 +80,7 @@ public final class DefiningTest {
         Check.due("no cell changes", bench.then("drop 2 allot 2 @"), "0");
         Check.after("marker m 7 , 8 , m create x 5 , x @ here", "5 2");
         Check.after("7 , 8 , marker m -2 allot m here 1 @ 2 @", "3 7 8");
+        Check.after("399 allot marker m -9 allot m here", "400");
         Check.after(": dup 5 ; marker m : dup 6 ; m dup", "5");
         Check.after("marker m m marker m m", "");
         Check.after("marker a marker b a b", "error -13");

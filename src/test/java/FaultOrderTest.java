@@ -90,7 +90,6 @@ public final class FaultOrderTest {
         Check.after("400 ' @ catch", "400 -9");
         Check.after("400 ' allot catch here", "400 -8 1");
         Check.after("5 7 ' pick catch", "5 7 -4");
-        Check.after("0 base ! push", "error -13");
         Bench comma = new Bench().with("399 allot");
         Check.due(",", comma.then("7 ' , catch here"), "7 -8 400");
         Bench variable = new Bench().with("399 allot");

@@ -93,6 +93,12 @@ public final class MemoryTest {
         // what is freed by a shorter size comes back as 0
         Check.after("3 allocate 2drop 9 402 ! 400 2 resize 2drop 400 3 resize 402 @", "400 0 0");
         Check.after("3 allocate 2drop 2 400 ! 400 -1 resize 400 @", "400 -61 2");
+        Check.after("3 allocate drop 1 resize 2 allocate", "400 0 401 0");
+        Check.after("598 allocate 2drop 2 allocate drop 3 resize", "998 -61");
+        Check.after("3 allocate 2drop 3 allocate drop 5 resize 400 free 403 free", "403 0 0 0");
+        // cells that are not new go along, and what was there before is 0
+        Check.after("2 allocate 2drop 1 allocate 2drop 4 allocate 2drop 8 403 ! 9 406 !"
+                + " 403 free drop 400 4 resize 403 @ 406 @", "403 0 0 0");
         Bench bench = new Bench();
         bench.then("5 allocate 2drop 5 allocate 2drop 400 9 resize");
         Check.due("blocks and cells", bench.machine.told(5) + " " + bench.machine.told(6), "2 14");

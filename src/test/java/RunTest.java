@@ -116,6 +116,8 @@ public final class RunTest {
         Check.after("16 base ! ff -FF 7fffffff 123456789", "255 -255 2147483647 591751049");
         Check.after("36 base ! z -Z 10", "35 -35 36");
         Check.after("2 base ! 101", "5");
+        Check.after("11 base ! a -a0 1a9", "10 -110 240");
+        Check.after("11 base ! b", "error -13");
         Check.after("2 base ! 2", "error -13");
         Check.after("1 base ! 0", "error -13");
         Check.after("37 base ! 1", "error -13");

@@ -64,7 +64,7 @@ public final class StackWordsTest {
         Check.after("12 10 and 12 10 or 12 10 xor 0 invert", "8 14 6 -1");
         Check.after("1 31 lshift 1 32 lshift 1 -1 lshift 3 0 lshift", "-2147483648 0 0 3");
         Check.after("-1 31 rshift -1 1 rshift -1 32 rshift -1 -1 rshift", "1 2147483647 0 0");
-        Check.after("1 33 lshift -1 33 rshift", "0 0");
+        Check.after("1 33 lshift -1 33 rshift -3 0 rshift", "0 0 -3");
     }
 
     private static void compares() {
