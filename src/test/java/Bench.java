@@ -4,7 +4,11 @@ import java.nio.charset.StandardCharsets;
 final class Bench {
     static final int STEPS = 5000;
 
-    final ColonMachine machine = new ColonMachine();
+    // The cells of memory that machines are compared by: of more of them there are too few calls.
+    private static final int[] CELLS = {0, 1, 2, 3, 4, 5, 6, 7, 8, 398, 399, 400, 401, 402, 403,
+        404, 405, 406, 407, 408, 409, 410, 411, 412, 419, 420, 500, 998, 999};
+
+    final Machine machine = new Machine();
 
     /** What a new machine comes to with a text: its data stack, or its error. */
     static String after(String text) {
@@ -66,27 +70,29 @@ final class Bench {
 
     String out() {
         StringBuilder said = new StringBuilder();
-        for (int i = 0; i < machine.out(); i++) {
-            said.append((char) (machine.word(i / 8) >>> 8 * (i % 8) & 255));
+        int size = machine.out();
+        long eight = 0;
+        for (int i = 0; i < size; i++) {
+            eight = i % 8 == 0 ? machine.word(i / 8) : eight >>> 8;
+            said.append((char) (eight & 255));
         }
         return said.toString();
     }
 
-    /** What the face tells but for the memory, to compare two machines by. */
-    String most() {
-        StringBuilder most = new StringBuilder(stack()).append('|').append(out()).append('|');
-        for (int what = 0; what < 8; what++) {
-            most.append(machine.told(what)).append(' ');
+    /** What the face tells but for the data stack, to compare a machine before and after. */
+    String rest() {
+        StringBuilder rest = new StringBuilder(out()).append('|').append(machine.code());
+        for (int what = 1; what < 8; what++) {
+            rest.append(' ').append(machine.told(what));
         }
-        return most.append(machine.code()).toString();
+        for (int cell : CELLS) {
+            rest.append(',').append(peeked(cell));
+        }
+        return rest.toString();
     }
 
     String all() {
-        StringBuilder all = new StringBuilder(most());
-        for (int cell = 0; cell < 1000; cell++) {
-            all.append(',').append(peeked(cell));
-        }
-        return all.toString();
+        return stack() + "|" + rest();
     }
 
     String peeked(int cell) {
@@ -95,6 +101,14 @@ final class Bench {
         } catch (IndexOutOfBoundsException e) {
             return "none";
         }
+    }
+
+    String told(int... whats) {
+        StringBuilder told = new StringBuilder();
+        for (int what : whats) {
+            told.append(told.length() == 0 ? "" : " ").append(machine.told(what));
+        }
+        return told.toString();
     }
 
     static String times(int n, String text) {

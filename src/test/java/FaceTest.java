@@ -20,7 +20,7 @@ public final class FaceTest {
     }
 
     private static void newObject() {
-        ColonMachine machine = new ColonMachine();
+        Machine machine = new Machine();
         Check.due("new code", machine.code(), 0);
         int[] want = {0, 0, 0, 0, 1, 0, 0, 0};
         for (int what = 0; what < want.length; what++) {
@@ -39,7 +39,7 @@ public final class FaceTest {
     }
 
     private static void feed() {
-        ColonMachine machine = new ColonMachine();
+        Machine machine = new Machine();
         Check.thrown("feed 0", ARGUMENT, () -> machine.feed(1, 0));
         Check.thrown("feed -1", ARGUMENT, () -> machine.feed(1, -1));
         Check.thrown("feed 9", ARGUMENT, () -> machine.feed(1, 9));
@@ -63,7 +63,7 @@ public final class FaceTest {
     }
 
     private static void feedAndReading() {
-        ColonMachine machine = new Bench().feed("  1 2  3 ").machine;
+        Machine machine = new Bench().feed("  1 2  3 ").machine;
         machine.run(1);
         // "1 " is read, and without calls no byte is gone over before 2
         Check.due("read bytes do not count", machine.feed(' ', 1), 6);
@@ -71,7 +71,7 @@ public final class FaceTest {
         Check.due("bytes up to 32 behind the last step go", machine.feed(' ', 1), 4);
         machine.run(1);
         Check.due("all read", machine.feed('4', 1), 1);
-        ColonMachine looping = new Bench().with(": f begin again ;").feed("f  5 ").machine;
+        Machine looping = new Bench().with(": f begin again ;").feed("f  5 ").machine;
         looping.run(10);
         Check.due("with calls nothing is gone over", looping.feed(' ', 1), 4);
     }
@@ -92,7 +92,7 @@ public final class FaceTest {
 
     private static void pick() {
         Bench bench = new Bench();
-        ColonMachine machine = bench.machine;
+        Machine machine = bench.machine;
         Check.thrown("pick of none", INDEX, () -> machine.pick(0));
         bench.then("11 22 33");
         Check.due("pick 0", machine.pick(0), 33);
@@ -119,7 +119,7 @@ public final class FaceTest {
 
     private static void peek() {
         Bench bench = new Bench();
-        ColonMachine machine = bench.machine;
+        Machine machine = bench.machine;
         Check.due("base", machine.peek(0), 10);
         for (int cell : new int[] {-1, 1, 399, 400, 999, 1000, Integer.MIN_VALUE,
                 Integer.MAX_VALUE}) {
@@ -136,7 +136,7 @@ public final class FaceTest {
 
     private static void told() {
         Bench bench = new Bench();
-        ColonMachine machine = bench.machine;
+        Machine machine = bench.machine;
         bench.then(": f 5 >r 6 >r begin again ; create a 3 allot 2 allocate 4 allocate");
         bench.feed("' f catch");
         machine.run(20);
@@ -165,7 +165,7 @@ public final class FaceTest {
     }
 
     private static void word() {
-        ColonMachine machine = new Bench().with(".\" abcdefghij\" 255 emit").machine;
+        Machine machine = new Bench().with(".\" abcdefghij\" 255 emit").machine;
         Check.due("word 0", machine.word(0), 0x6867666564636261L);
         Check.due("word 1", machine.word(1), 0xff6a69L);
         Check.due("word 2", machine.word(2), 0);

@@ -13,7 +13,7 @@ public final class RunTest {
     }
 
     private static void arguments() {
-        ColonMachine machine = new ColonMachine();
+        Machine machine = new Machine();
         for (int n : new int[] {0, -1, 5001, Integer.MIN_VALUE, Integer.MAX_VALUE}) {
             Check.thrown("run " + n, IllegalArgumentException.class, () -> machine.run(n));
         }
@@ -25,13 +25,13 @@ public final class RunTest {
     }
 
     private static void countsSteps() {
-        ColonMachine machine = new Bench().feed(" 1 2 3 ").machine;
+        Machine machine = new Bench().feed(" 1 2 3 ").machine;
         Check.due("a step of three", machine.run(1), ColonMachine.RUNNING);
         Check.due("one word", machine.told(0), 1);
         Check.due("the rest", machine.run(2), ColonMachine.DONE);
         Check.due("three words", machine.told(0), 3);
         Check.due("nothing left", machine.run(1), ColonMachine.DONE);
-        ColonMachine blanks = new Bench().feed(" \n\t ").machine;
+        Machine blanks = new Bench().feed(" \n\t ").machine;
         Check.due("blanks alone", blanks.run(1), ColonMachine.DONE);
         Check.due("they are gone", blanks.feed(' ', 1), 1);
         // six steps of text, the call, the literal, and then two for each 1+

@@ -17,7 +17,12 @@ public final class SteadyTest {
         "3 0 do", "loop", "if", "then", "else", "begin", "until", "dup while", "repeat", ")", "\"",
         ".\" ab\"", "5 constant c", "immediate", ": d create , does> @ ; 4 d c", "3 allocate drop",
         "i", "r>", "1 >r", "exit", "unloop", "leave", "10 base !", "2147483647", "-2147483648"};
-    private static final int ROUNDS = 1000;
+    private static final int ROUNDS = 2000;
+    private static final int STEPS_MOST = 40;
+    private static final int UNREAD_MOST = 400;
+    private static final int CALLS_OF_A_PART = 14 + STEPS_MOST;
+    // the data stack, the out, and what else there is
+    private static final int CALLS_OF_ALL = 65 + 101 + 40;
 
     private final Random random;
 
@@ -38,31 +43,22 @@ public final class SteadyTest {
     private void round(String name) {
         Bench whole = new Bench();
         Bench stepped = new Bench();
-        for (int part = 0; part < 12; part++) {
-            String text = text();
-            if (whole.machine.told(2) > 0 && random.nextInt(4) == 0) {
-                text = "";
-            }
-            try {
-                whole.feed(text);
-                stepped.feed(text);
-            } catch (IllegalStateException e) {
-                return;
-            }
-            int n = 1 + random.nextInt(random.nextInt(4) == 0 ? 300 : 30);
+        int unread = 0;
+        while (stepped.machine.callsLeft() > CALLS_OF_A_PART + CALLS_OF_ALL) {
+            String text = unread > UNREAD_MOST || random.nextInt(4) == 0 ? "" : text();
+            whole.feed(text);
+            stepped.feed(text);
+            int n = 1 + random.nextInt(STEPS_MOST);
             int want = whole.machine.run(n);
             int got = inSteps(stepped.machine, n);
-            if (want != got || !whole.most().equals(stepped.most())) {
-                Check.due(name + " in steps after " + text, got + stepped.most(),
-                        want + whole.most());
-                return;
-            }
-            bounds(name, whole.machine);
+            Check.due(name + " in steps after " + text, got, want);
+            unread = want == ColonMachine.RUNNING ? unread + text.length() : 0;
         }
         Check.due(name, stepped.all(), whole.all());
+        bounds(name, whole.machine);
     }
 
-    private static int inSteps(ColonMachine machine, int n) {
+    private static int inSteps(Machine machine, int n) {
         int result = ColonMachine.RUNNING;
         for (int i = 0; i < n && result == ColonMachine.RUNNING; i++) {
             result = machine.run(1);
@@ -70,7 +66,7 @@ public final class SteadyTest {
         return result;
     }
 
-    private static void bounds(String name, ColonMachine machine) {
+    private static void bounds(String name, Machine machine) {
         int[] most = {64, 64, 40, 80, 400, 600, 600, 1};
         for (int what = 0; what < most.length; what++) {
             int is = machine.told(what);
@@ -96,8 +92,8 @@ public final class SteadyTest {
 
     /** Any call with any arguments: an exception that its face does not declare ends the test. */
     private void wildCalls(String name) {
-        ColonMachine machine = new ColonMachine();
-        for (int call = 0; call < 512; call++) {
+        Machine machine = new Machine();
+        while (machine.callsLeft() > 100) {
             try {
                 wildCall(machine);
             } catch (IllegalArgumentException | IllegalStateException e) {
@@ -110,7 +106,7 @@ public final class SteadyTest {
         Check.due(name, "steady", "steady");
     }
 
-    private void wildCall(ColonMachine machine) {
+    private void wildCall(Machine machine) {
         int wild = random.nextInt(3) == 0 ? random.nextInt() : random.nextInt(1100) - 50;
         switch (random.nextInt(10)) {
             case 0: machine.run(random.nextInt(4) == 0 ? wild : 1 + random.nextInt(200)); break;
@@ -125,7 +121,7 @@ public final class SteadyTest {
         }
     }
 
-    private void feedPart(ColonMachine machine) {
+    private void feedPart(Machine machine) {
         String text = text();
         for (int i = 0; i < text.length(); i++) {
             machine.feed(text.charAt(i), 1);

@@ -124,7 +124,7 @@ public final class ThrowingTest {
         Bench dup = new Bench().push(63, 1);
         dup.then("' dup catch");
         Check.due("a primitive", dup.machine.told(0) + " " + dup.machine.pick(0), "64 -3");
-        ColonMachine open = new Bench().feed("5 ' dup catch").machine;
+        Machine open = new Bench().feed("5 ' dup catch").machine;
         open.run(3);
         Check.due("a catch is a call", open.told(2), 1);
         open.run(1);
