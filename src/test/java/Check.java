@@ -2,6 +2,7 @@
 final class Check {
     private static int right = 0;
     private static int wrong = 0;
+    private static String sentence = "";
 
     private Check() {
     }
@@ -10,12 +11,20 @@ final class Check {
         void make();
     }
 
+    /** The sentence of the document that the checks from here on are of. */
+    static void of(String said) {
+        sentence = said;
+    }
+
     static void due(String what, String got, String want) {
         if (got.equals(want)) {
             right++;
             return;
         }
         wrong++;
+        if (!sentence.isEmpty()) {
+            System.out.println("\"" + sentence + "\":");
+        }
         System.out.println(what + " answered [" + got + "], due is [" + want + "]");
     }
 
