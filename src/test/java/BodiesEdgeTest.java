@@ -1,4 +1,4 @@
-/** Terms: compiling, the primitives for bodies, those that define words, the specials, the items. */
+/** Terms: compiling, the primitives for bodies and those that define, the specials, the items. */
 public final class BodiesEdgeTest {
     private static final String[] OPENERS = {"if", "if else", "begin", "begin while", "do", "?do"};
     // by opener, as above: the specials that may follow it, one for each
@@ -11,6 +11,7 @@ public final class BodiesEdgeTest {
         ownReturnsAtTheEnd();
         forBodiesAlone();
         needOfReturns();
+        onAFullStack();
         defining();
         ticks();
         immediate();
@@ -109,18 +110,50 @@ public final class BodiesEdgeTest {
         Check.after(": f 1 >r r@ r> ; f", "1 1");
         Check.after(": f r> ; f", "error -6");
         Check.after(": f r@ ; f", "error -6");
+        // what is behind would throw 5, if they did not
         for (String word : new String[] {"i", "unloop"}) {
-            Check.after(": f " + word + " ; f", "error -6");
-            Check.after(": f 1 >r " + word + " ; f", "error -6");
+            Check.after(": f " + word + " 5 throw ; f", "error -6");
+            Check.after(": f 1 >r " + word + " 5 throw ; f", "error -6");
+            Check.after(": f 1 >r 2 >r " + word + " 5 throw ; f", "error 5");
         }
         Check.after(": f 1 >r 2 >r i unloop ; f", "2");
-        Check.after(": f 1 >r 2 >r 3 >r j ; f", "error -6");
+        Check.after(": f 1 >r 2 >r 3 >r j 5 throw ; f", "error -6");
+        Check.after(": f 1 >r 2 >r 3 >r 4 >r j 5 throw ; f", "error 5");
         Check.after(": f 1 >r 2 >r 3 >r 4 >r j unloop unloop ; f", "2");
         for (String item : new String[] {"loop", "1 +loop", "leave loop"}) {
-            Check.after(": f 9 0 do unloop " + item + " ; f", "error -6");
-            Check.after(": f 9 0 do r> drop " + item + " ; f", "error -6");
+            Check.after(": f 9 0 do unloop " + item + " 5 throw ; f", "error -6");
+            Check.after(": f 9 0 do r> drop " + item + " 5 throw ; f", "error -6");
+            // only the first time round the cells are gone, so that it is the item that throws
+            Bench once = new Bench().with("variable v : f 3 0 do v @ 0= if unloop then 1 v +! "
+                    + item + " 5 throw ; f");
+            Check.due(item + " without cells", once.machine.code() + " " + once.machine.peek(1),
+                    "-6 1");
+            Bench half = new Bench().with("variable v : f 3 0 do v @ 0= if r> drop then 1 v +! "
+                    + item + " 5 throw ; f");
+            Check.due(item + " with one cell", half.machine.code() + " " + half.machine.peek(1),
+                    "-6 1");
         }
+        Check.after(": f 9 0 do unloop leave 5 throw loop ; f", "error -6");
         Check.after(": f 1 0 do r> r> swap >r >r loop ; f", "running");
+        Check.after(": f 7 >r 3 0 do loop 3 0 do 1 +loop 3 0 do leave loop r> ; f", "7");
+    }
+
+    private static void onAFullStack() {
+        Check.of("-3 a stack would have too many cells");
+        for (String word : new String[] {"r>", "r@", "i", "j"}) {
+            Bench on = new Bench().with(": f " + Bench.times(4, ">r ") + Bench.times(3, "dup ")
+                    + word + " begin again ;").push(64, 1);
+            Check.due(word + " to 64", on.with("f").told(0), "64");
+            Bench beyond = new Bench().with(": f " + Bench.times(4, ">r ")
+                    + Bench.times(4, "dup ") + word + " begin again ;").push(64, 1);
+            Check.due(word + " beyond 64", beyond.then("f"), "error -3");
+        }
+        Bench unloop = new Bench().with(": f >r >r dup dup unloop begin again ;").push(64, 1);
+        Check.due("unloop of 64", unloop.with("f").told(0, 1), "64 0");
+        Bench exit = new Bench().with(": f exit ;").push(64, 1);
+        Check.due("exit of 64", exit.with("f").told(0, 2), "64 0");
+        Bench toReturns = new Bench().with(": f >r begin again ;").push(64, 1);
+        Check.due(">r of 64", toReturns.with("f").told(0, 1), "63 1");
     }
 
     private static void defining() {
@@ -330,6 +363,7 @@ public final class BodiesEdgeTest {
         Check.after(": f ?do i leave loop 7 ; 2 3 f", "3 7");
         Check.after(": f ?do i loop 7 ; 0 0 f -2147483648 -2147483648 f", "7 7");
         Check.after(": f ?do i loop ; 3 f", "error -4");
+        Check.after(": f ?do i loop ; 0 f", "error -4");
         Check.after(": f ?do i loop ; f", "error -4");
         Check.after(": f ?do i 1 +loop 7 ; 3 3 f 4 3 f", "7 3 7");
         Check.after(": f ?do 3 3 ?do 1 loop i loop ; 2 0 f", "0 1");

@@ -1,4 +1,4 @@
-/** Terms: each fault where it begins, of several the first, and that what throws does nothing else. */
+/** Terms: of several faults the first, and that what throws one does nothing else. */
 public final class FaultsEdgeTest {
     private static final String DEEP = ": f dup if 1- recurse exit then drop ";
     private static final String ITEMS = ": g " + Bench.times(150, "1 ");

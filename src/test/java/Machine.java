@@ -1,6 +1,6 @@
 /**
- * A ColonMachine whose calls are counted: what those beyond the 512th answer is free, so a test that
- * makes more of them is wrong itself.
+ * A ColonMachine whose calls are counted: what those beyond the 512th answer is free, so a test
+ * that makes more of them is wrong itself.
  */
 final class Machine {
     private static final int CALLS_MOST = 512;

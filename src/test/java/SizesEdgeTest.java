@@ -1,4 +1,4 @@
-/** Terms: the sizes of stacks, memory, dictionary, bodies and calls; up to each, on it, beyond it. */
+/** Terms: the sizes of stacks, memory, dictionary, bodies and calls; on each and beyond it. */
 public final class SizesEdgeTest {
     private static final Class<?> STATE = IllegalStateException.class;
     private static final Class<?> INDEX = IndexOutOfBoundsException.class;

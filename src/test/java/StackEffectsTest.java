@@ -1,7 +1,7 @@
 import java.util.Arrays;
 
 /**
- * Promise 3: each primitive with just the cells that it takes, with one less, and with a full stack.
+ * Promise 3: each primitive with just the cells that it takes, with one less, and on a full stack.
  */
 public final class StackEffectsTest {
     // the word with what it reads; the cells that it takes; how many it leaves

@@ -10,6 +10,7 @@ public final class TextEdgeTest {
         wordsAreRead();
         letters();
         names();
+        namesThatDiffer();
         namesThatNoneIs();
         digits();
         bases();
@@ -147,8 +148,24 @@ public final class TextEdgeTest {
         Check.after(": abcdefgh 1 ; : abcdefgi 2 ; : bbcdefgh 3 ; : abcdefg 4 ;"
                 + " abcdefgh abcdefgi bbcdefgh abcdefg", "1 2 3 4");
         Check.after(": aa 1 ; : a 2 ; aa a", "1 2");
-        Check.after(": \u00ff\u00ff\u00ff\u00ff\u00ff\u00ff\u00ff\u00ff 1 ; : \u00ff 2 ;"
-                + " \u00ff\u00ff\u00ff\u00ff\u00ff\u00ff\u00ff\u00ff \u00ff", "1 2");
+    }
+
+    private static void namesThatDiffer() {
+        String name = "aaaaaaaa";
+        for (int place = 0; place < 8; place++) {
+            for (int bit = 1; bit < 256; bit *= 2) {
+                char other = (char) ('a' ^ bit);
+                // A is a, and ! is the least byte of a word
+                if (other != 'A' && other > 32) {
+                    String another = name.substring(0, place) + other + name.substring(place + 1);
+                    Check.after(": " + name + " 1 ; : " + another + " 2 ; " + name + " " + another,
+                            "1 2");
+                }
+            }
+        }
+        Check.after(": a\u00e1 1 ; : `\u00e1 2 ; a\u00e1 `\u00e1", "1 2");
+        String high = Bench.times(8, "\u00ff");
+        Check.after(": " + high + " 1 ; : \u00ff 2 ; " + high + " \u00ff", "1 2");
     }
 
     private static void namesThatNoneIs() {
@@ -256,7 +273,8 @@ public final class TextEdgeTest {
         Check.due("all that is there", rest.then("3 )"), "error -13");
         Bench bench = new Bench().with("(").feed(" 4");
         Check.due("what comes later is none of it", bench.then(""), "4");
-        Check.due("a full text", new Bench().with("( " + Bench.times(497, "x") + ")").then("5"), "5");
+        Check.due("a full text", new Bench().with("( " + Bench.times(497, "x") + ")").then("5"),
+                "5");
     }
 
     private static void linesOfComment() {

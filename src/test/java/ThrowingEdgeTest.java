@@ -32,7 +32,8 @@ public final class ThrowingEdgeTest {
     }
 
     private static void stepsWithoutCalls() {
-        Check.of("A STEP: without calls, a word is read from the text, and what is told of it done");
+        Check.of("A STEP: without calls, a word is read from the text, and what is told of it"
+                + " done");
         Check.due("a number", stepped("1 2 3", 1).stack(), "1");
         Check.due("a primitive", stepped("1 dup dup", 2).stack(), "1 1");
         Check.due("a constant", stepped("5 constant c c c", 3).stack(), "5");

@@ -143,7 +143,7 @@ public final class ThrowingTest {
         // the token of f is 1
         Bench catches = new Bench().with("variable n : f 1 n +! 1 catch throw ;");
         Check.due("catches of catches", catches.then("f n @"), "error -5");
-        // f, catch, f, catch ..: the catch of the 20th f is the 40th call, and the next f is refused
+        // f, catch, f, catch ..: the catch of the 20th f is the 40th call, the next f is refused
         Check.due("20 of each", catches.machine.peek(1), 20);
         Check.after(Bench.times(41, "1056 ") + "catch", catchRow());
     }
