@@ -755,7 +755,9 @@ public final class ColonMachine {
 
         private void clearCells(int from, int to) {
             for (int i = from; i < to; i++) {
-                write(i, 0);
+                if (i >= HEAP && i < END) {
+                    cells[i] = 0;
+                }
             }
         }
 
@@ -1223,11 +1225,17 @@ public final class ColonMachine {
                 return NOT_TOGETHER;
             }
             added(Item.END, 0);
-            Item[] body = new Item[size];
-            System.arraycopy(items, 0, body, 0, size);
-            words.add(new Word(name, Word.COLON, 0, body));
+            words.add(new Word(name, Word.COLON, 0, bodyOfItems()));
             drop();
             return FINE;
+        }
+
+        private Item[] bodyOfItems() {
+            Item[] body = new Item[size];
+            for (int i = 0; i < size; i++) {
+                body[i] = items[i];
+            }
+            return body;
         }
 
         private int skipped(int b) {
